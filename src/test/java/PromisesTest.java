@@ -31,6 +31,7 @@ public final class PromisesTest {
     promise12();
     promise13();
     promise13Roads();
+    promise13Extra();
     promise14();
     promise15();
     promise16();
@@ -230,11 +231,13 @@ public final class PromisesTest {
     refused(x, "songs -1", ARGUMENT, () -> x.ask(0, 5, 0, 10, 1, -1));
     refused(x, "songs 65536", ARGUMENT, () -> x.ask(0, 5, 0, 10, 1, 65536));
     due("fix the day", x.fix(1) > 0, true);
+    x.band(1);
+    due("another band may play that day", x.ask(1, 365, 0, 10, 1, 0), 3);
     refused(x, "band and day are fixed", STATE, () -> x.ask(0, 365, 0, 10, 1, 0));
     refused(x, "band and day are fixed, wrong start", ARGUMENT, () -> x.ask(0, 365, 0, 9, 1, 0));
     x.cancel(1);
-    due("ask for the day again", x.ask(0, 365, 0, 10, 1, 0), 3);
-    for (int k = 4; k < 14; k++) {
+    due("ask for the day again", x.ask(0, 365, 0, 10, 1, 0), 4);
+    for (int k = 5; k < 14; k++) {
       due("ask " + k, x.ask(0, 100 + k, 0, 10, 1, 0), k);
     }
     refused(x, "a fifteenth", STATE, () -> x.ask(0, 5, 0, 10, 1, 0));
@@ -462,6 +465,18 @@ public final class PromisesTest {
     due("sound", x.isSound(), true);
   }
 
+  private static void promise13Extra() {
+    FirstdanceAgency x = new FirstdanceAgency();
+    x.player(1, 0, 0, 7);
+    x.band(1);
+    x.ask(0, 1, 0, 10, 2, 0);
+    int price = x.fix(0);
+    x.late(0, 90);
+    x.pass(2);
+    due("quarters times fees, then divided", x.ofWedding(0, 10), price + 6 * 7 / 4);
+    due("likewise of what one earns", x.ofPlayer(0, 5), 14 + 6 * 7 / 4);
+  }
+
   private static void promise14() {
     FirstdanceAgency x = four();
     x.feud(0, 3, true);
@@ -605,6 +620,8 @@ public final class PromisesTest {
     due("at the same time", x.free(0, 6), false);
     x.road(0, 1, 0);
     due("no way between both", x.free(0, 1), false);
+    x.ask(1, 5, 1, 17, 1, 0);
+    due("no way, however late", x.free(0, 7), false);
     x.road(0, 1, 2);
     x.cancel(0);
     due("a lost one is not in the way", x.free(0, 2), true);
@@ -614,7 +631,7 @@ public final class PromisesTest {
     refused(x, "player -1", INDEX, () -> x.free(-1, 0));
     refused(x, "player 2", INDEX, () -> x.free(2, 0));
     refused(x, "wedding -1", INDEX, () -> x.free(0, -1));
-    refused(x, "wedding 7", INDEX, () -> x.free(0, 7));
+    refused(x, "wedding 8", INDEX, () -> x.free(0, 8));
   }
 
   private static void promise20() {
@@ -853,6 +870,10 @@ public final class PromisesTest {
     due("the next three, of them those first in their queues", x.plan(5, true), 2 + 4 + 8);
     x.cancel(2);
     due("another is first then", x.plan(5, true), 2 + 8 + 16);
+    x.cancel(4);
+    x.ask(1, 7, 0, 10, 1, 0);
+    x.ask(1, 7, 0, 10, 6, 0);
+    due("the second of a queue is not planned", x.plan(7, true), 32);
     due("no past day has any", x.pass(6) + x.plan(5, false), 6);
     refused(x, "plan -1", ARGUMENT, () -> x.plan(-1, true));
     refused(x, "plan 366", ARGUMENT, () -> x.plan(366, false));
