@@ -143,8 +143,8 @@ final class Bounds {
   }
 
   /**
-   * As many players, bands and weddings as there can be: the weddings 0 to 5 of the day 40 are one of each band, from 10
-   * to 16 by turns; the others stand behind them. One player is needed for each.
+   * As many players, bands and weddings as there can be, all of the day 40: w is of the band w % 6 and from 10 + w % 6
+   * on for an hour, so that one player alone can play one of each band.
    */
   static FirstdanceAgency full() {
     FirstdanceAgency x = new FirstdanceAgency();
