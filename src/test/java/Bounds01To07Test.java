@@ -179,6 +179,16 @@ public final class Bounds01To07Test {
     Bounds.refused(x, "player and songs", Bounds.INDEX, () -> x.learn(-1, -1));
   }
 
+  static void promise03WhatIsLearntCountsFromThenOn() {
+    FirstdanceAgency x = Bounds.solo(1);
+    x.ask(0, 5, 0, 10, 1, 512);
+    Bounds.due("nobody knows it", x.filling(0, 3), 4);
+    Bounds.due("learnt", x.learn(0, 512), 1);
+    Bounds.due("one knows it", x.ofSong(9, 5), 1);
+    Bounds.due("a filling", x.filling(0, 0), 1);
+    Bounds.due("playable", x.set(1, false), 1);
+  }
+
   // ---- 4: song
 
   static void promise04SongIs0To15() {
@@ -385,6 +395,21 @@ public final class Bounds01To07Test {
     Bounds.refused(x, "hours 10", Bounds.ARGUMENT, () -> x.road(0, 1, 10));
     Bounds.refused(x, "hours -1", Bounds.ARGUMENT, () -> x.road(0, 1, -1));
     Bounds.due("as before", x.drive(0, 1), 3);
+  }
+
+  static void promise06DoesNotMatterForWhatIsFixed() {
+    FirstdanceAgency x = Bounds.solo(1);
+    x.road(0, 1, 1);
+    x.ask(0, 5, 1, 10, 1, 0);
+    x.ask(1, 5, 0, 12, 1, 0);
+    x.fix(0);
+    x.fix(1);
+    x.road(0, 1, 0);
+    Bounds.due("both are fixed still", x.desk(5), 2);
+    Bounds.due("though it would not be free", x.free(0, 0), false);
+    Bounds.due("nor for the other", x.free(0, 1), false);
+    x.pass(6);
+    Bounds.due("both are played", x.ofPlayer(0, 7), 2);
   }
 
   // ---- 7: band

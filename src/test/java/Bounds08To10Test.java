@@ -258,6 +258,19 @@ public final class Bounds08To10Test {
     Bounds.due("a fifth", x.desk(8), 6314 / 5);
   }
 
+  static void promise09PriceIsByTheRoadsOfThatMoment() {
+    FirstdanceAgency x = Bounds.solo(10);
+    x.road(0, 1, 2);
+    x.ask(0, 5, 1, 10, 1, 0);
+    x.road(0, 1, 3);
+    Bounds.due("three hours as it is fixed", x.fix(0), 40 * 6 / 5 + 50);
+    x.road(0, 1, 9);
+    Bounds.due("a cost of nine by now", x.filling(0, 1), 100);
+    Bounds.due("the price stays", x.ofWedding(0, 8), 98);
+    Bounds.due("what was paid stays", x.ofWedding(0, 10), 19);
+    Bounds.due("so does what they owe", x.cancel(0), 98);
+  }
+
   static void promise09TheOthersInItsQueueAreLost() {
     FirstdanceAgency x = Bounds.solo(10);
     x.ask(0, 5, 0, 10, 1, 0);
@@ -371,6 +384,23 @@ public final class Bounds08To10Test {
     Bounds.due("players", x.ofWedding(0, 7), 5);
     Bounds.due("price", x.ofWedding(0, 8), 98);
     Bounds.due("it is no longer played by 0", x.ofPlayer(0, 6), 1);
+  }
+
+  static void promise10ExtraIsNotOwed() {
+    FirstdanceAgency x = Bounds.fixed();
+    x.pass(35);
+    x.late(0, 240);
+    Bounds.due("all of the price, no more", x.cancel(0), 98);
+    Bounds.due("paid", x.ofWedding(0, 10), 98);
+    Bounds.due("nobody earned", x.desk(10), 0);
+  }
+
+  static void promise10FilledAnewOwesOfTheOldPrice() {
+    FirstdanceAgency x = Bounds.fixed();
+    x.ill(0, 40);
+    x.pass(30);
+    Bounds.due("10 days ahead", x.cancel(0), 98 * 70 / 100);
+    Bounds.due("cash", x.desk(8), 19 + 68);
   }
 
   static void promise10OnItsDayAndBehindIt() {

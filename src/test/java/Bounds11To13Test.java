@@ -173,6 +173,101 @@ public final class Bounds11To13Test {
     Bounds.due("both are new", x.ofWedding(0, 7), 4 + 8);
   }
 
+  static void promise11TodayToo() {
+    FirstdanceAgency x = Bounds.fixed();
+    Bounds.passTo(x, 40);
+    Bounds.due("another plays it today", x.ill(0, 40), 0);
+    Bounds.due("filled anew", x.ofWedding(0, 7), 6);
+    Bounds.due("nobody is left", x.ill(1, 40), 1);
+    x.pass(1);
+    Bounds.due("lost, not played", x.ofWedding(0, 6), Bounds.LOST);
+  }
+
+  /** 0 is fixed with 1; then 2 and 3 could come, who cost less, but for what is told of them. */
+  private static FirstdanceAgency duo(int songsOf2, int songsOf3, int instrumentsOf2) {
+    FirstdanceAgency x = new FirstdanceAgency();
+    x.player(1, 3, 0, 5);
+    x.player(2, 3, 0, 5);
+    x.band(4);
+    x.band(2);
+    x.ask(0, 5, 0, 12, 2, 1);
+    x.fix(0);
+    x.player(instrumentsOf2, songsOf2, 0, 1);
+    x.player(2, songsOf3, 0, 2);
+    return x;
+  }
+
+  static void promise11PromisedSongsAreKnownThen() {
+    FirstdanceAgency x = duo(2, 1, 2);
+    x.ill(1, 5);
+    Bounds.due("2 does not know it", x.ofWedding(0, 7), 1 + 8);
+    FirstdanceAgency y = duo(2, 2, 2);
+    Bounds.due("neither knows it", y.ill(1, 5), 1);
+  }
+
+  static void promise11EachOneInstrumentThen() {
+    FirstdanceAgency x = duo(1, 1, 1);
+    x.ill(1, 5);
+    Bounds.due("2 plays what 0 plays", x.ofWedding(0, 7), 1 + 8);
+    FirstdanceAgency y = duo(1, 1, 3);
+    y.ill(1, 5);
+    Bounds.due("2 plays either", y.ofWedding(0, 7), 1 + 4);
+  }
+
+  static void promise11OnlyThoseWhoAreFreeThen() {
+    FirstdanceAgency x = duo(1, 1, 2);
+    x.ill(2, 5);
+    x.ill(1, 5);
+    Bounds.due("2 is off", x.ofWedding(0, 7), 1 + 8);
+    FirstdanceAgency y = duo(1, 1, 2);
+    y.band(3);
+    y.ask(2, 5, 0, 13, 1, 0);
+    y.fix(1);
+    Bounds.due("2 plays elsewhere", y.ofWedding(1, 7), 4);
+    y.ill(1, 5);
+    Bounds.due("at that hour", y.ofWedding(0, 7), 1 + 8);
+    Bounds.due("the other one is left as it was", y.ofWedding(1, 7), 4);
+  }
+
+  static void promise11NoTwoWithAFeudThen() {
+    FirstdanceAgency x = duo(1, 1, 2);
+    x.feud(0, 2, true);
+    x.ill(1, 5);
+    Bounds.due("2 has a feud with 0", x.ofWedding(0, 7), 1 + 8);
+    x.feud(0, 3, true);
+    Bounds.due("what is fixed stays, until one is ill", x.ofWedding(0, 6), Bounds.FIXED);
+    x.player(1, 1, 0, 1);
+    x.ill(3, 5);
+    Bounds.due("nobody can play with 0: 2 and the new one come", x.ofWedding(0, 7), 4 + 16);
+  }
+
+  static void promise11LeastCostByTheRoadsOfThatMoment() {
+    FirstdanceAgency x = Bounds.solo(10);
+    x.road(0, 1, 1);
+    x.road(0, 2, 2);
+    x.ask(0, 5, 0, 10, 1, 0);
+    x.fix(0);
+    x.player(1, 0, 1, 1);
+    x.player(1, 0, 2, 1);
+    Bounds.due("1 is nearer", x.filling(0, 0), 1);
+    x.road(0, 1, 3);
+    x.ill(0, 5);
+    Bounds.due("2 is nearer by now", x.ofWedding(0, 7), 4);
+  }
+
+  static void promise11LateStaysAndExtraIsOfThoseWhoPlayThen() {
+    FirstdanceAgency x = Bounds.fixed();
+    x.late(0, 60);
+    x.ill(0, 40);
+    Bounds.due("late", x.ofWedding(0, 9), 60);
+    Bounds.passTo(x, 41);
+    Bounds.due("50 an hour together", x.ofWedding(0, 10), 98 + 50);
+    Bounds.due("the new one earns it", x.ofPlayer(1, 5), 20 + 20);
+    Bounds.due("and has its hour", x.ofPlayer(1, 8), 1);
+    Bounds.due("the ill one has none", x.ofPlayer(0, 8), 0);
+    Bounds.due("nor played it", x.ofPlayer(0, 7), 0);
+  }
+
   static void promise11PriceStays() {
     FirstdanceAgency x = Bounds.fixed();
     x.ill(0, 40);
@@ -569,5 +664,43 @@ public final class Bounds11To13Test {
     Bounds.due("lost", x.ofWedding(0, 6), Bounds.LOST);
     Bounds.due("nobody earned", x.desk(10), 0);
     Bounds.due("no song is played", x.ofSong(0, 3), 0);
+  }
+
+  static void promise13PlayedAndLostAsOneDayIsOver() {
+    FirstdanceAgency x = Bounds.solo(10);
+    x.ask(0, 3, 0, 10, 1, 0);
+    x.ask(1, 3, 0, 12, 1, 0);
+    x.ask(2, 3, 0, 14, 1, 0);
+    x.fix(2);
+    x.pass(3);
+    Bounds.due("on that day", x.desk(4) * 10 + x.desk(5), 21);
+    x.pass(1);
+    int[] states = {Bounds.LOST, Bounds.LOST, Bounds.PLAYED};
+    for (int w = 0; w < 3; w++) {
+      Bounds.due("state of " + w, x.ofWedding(w, 6), states[w]);
+    }
+  }
+
+  static void promise13APromisedSongThatClashesIsNotPlayed() {
+    FirstdanceAgency x = Bounds.solo(10);
+    x.learn(0, 3 + 64);
+    x.ask(0, 0, 0, 10, 1, 64);
+    x.fix(0);
+    Bounds.due("0 and 1 are longer than 6", x.songs(0), "0 1");
+    x.pass(1);
+    Bounds.due("the promised one", x.ofSong(6, 3), 0);
+    Bounds.due("the others", x.ofSong(0, 3) * 10 + x.ofSong(1, 3), 11);
+  }
+
+  static void promise13WhatIsLearntByThenIsPlayed() {
+    FirstdanceAgency x = Bounds.solo(10);
+    x.ask(0, 1, 0, 10, 1, 0);
+    x.fix(0);
+    x.pass(1);
+    x.learn(0, 1);
+    x.pass(1);
+    x.learn(0, 2);
+    Bounds.due("learnt ahead", x.ofSong(0, 3), 1);
+    Bounds.due("learnt behind", x.ofSong(1, 3), 0);
   }
 }

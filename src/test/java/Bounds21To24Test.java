@@ -424,4 +424,19 @@ public final class Bounds21To24Test {
     Bounds.due("the last one", x.tell(13), "13 on day 365 in 5, asked");
     Bounds.due("the first one", x.tell(0), "0 on day 365 in 5, asked");
   }
+
+  /** The line that the document shows. */
+  static void promise24TheLineOfTheDocument() {
+    FirstdanceAgency x = new FirstdanceAgency();
+    x.player(1, 0, 1, 1);
+    x.player(1, 0, 1, 9);
+    x.player(2, 0, 1, 9);
+    x.player(2, 0, 1, 1);
+    x.band(4);
+    x.ask(0, 6, 1, 10, 1, 0);
+    x.ask(0, 6, 1, 10, 1, 0);
+    x.ask(0, 5, 1, 10, 1, 0);
+    x.fix(2);
+    Bounds.due("told", x.tell(2), "2 on day 5 in 1, fixed: 0,3");
+  }
 }

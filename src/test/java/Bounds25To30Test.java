@@ -92,6 +92,19 @@ public final class Bounds25To30Test {
     loses(x, 0, 5, 1);
   }
 
+  static void promise25TheFirstGetsTheOnlyOther() {
+    FirstdanceAgency x = Bounds.solo(1);
+    x.road(0, 1, 1);
+    x.ask(0, 5, 1, 13, 2, 0);
+    x.ask(1, 5, 0, 10, 2, 0);
+    x.fix(0);
+    x.fix(1);
+    x.player(1, 0, 0, 9);
+    Bounds.due("while it can play both", x.wouldLose(0, 5), 0);
+    x.road(0, 1, 2);
+    loses(x, 0, 5, 1);
+  }
+
   static void promise25WithAllThatCanBeThere() {
     FirstdanceAgency x = Bounds.full();
     for (int w = 0; w < 6; w++) {
@@ -344,6 +357,23 @@ public final class Bounds25To30Test {
     Bounds.due("with a way", x.wouldCancel(0), 136 - (136 - 100));
     x.road(0, 1, 0);
     Bounds.due("without a way", x.wouldCancel(0), 136 - (136 - 10));
+  }
+
+  static void promise27ByTheRoadsOfNow() {
+    FirstdanceAgency x = Bounds.solo(10);
+    x.road(0, 1, 1);
+    x.ask(0, 5, 1, 10, 1, 0);
+    Bounds.due("price", x.fix(0), 74);
+    Bounds.due("an hour away", x.wouldCancel(0), 60 - (60 - 20));
+    x.road(0, 1, 9);
+    Bounds.due("nine hours away", x.wouldCancel(0), 60 - (60 - 100));
+  }
+
+  static void promise27OfThoseWhoPlayItByNow() {
+    FirstdanceAgency x = Bounds.fixed();
+    x.late(0, 60);
+    x.ill(0, 40);
+    Bounds.due("1 and 2", x.wouldCancel(0), 0 - (98 - 19 + 50 - 50 - 50));
   }
 
   // ---- 28: key
