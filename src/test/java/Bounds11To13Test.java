@@ -532,6 +532,18 @@ public final class Bounds11To13Test {
     Bounds.due("its fifth day", x.ofWedding(1, 6), Bounds.LOST);
   }
 
+  static void promise13TheQueueMovesUpAsOneHasWaitedTooLong() {
+    FirstdanceAgency x = Bounds.four();
+    x.ask(0, 300, 5, 10, 1, 0);
+    x.pass(1);
+    x.ask(0, 300, 0, 10, 1, 0);
+    Bounds.refused(x, "the second one", Bounds.STATE, () -> x.fix(1));
+    x.pass(4);
+    Bounds.due("place of the one that waited", x.ofWedding(0, 11), Bounds.NONE);
+    Bounds.due("place of the other", x.ofWedding(1, 11), 0);
+    Bounds.due("it can be fixed", x.fix(1), 98);
+  }
+
   static void promise13AFixedOneWaitsAsLongAsItTakes() {
     FirstdanceAgency x = Bounds.fixed();
     x.pass(5);
